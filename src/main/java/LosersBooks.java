@@ -1066,7 +1066,7 @@ public final class LosersBooks {
                 default:
                     return left | right;
             }
-            return (int) Math.max(-BOUND, Math.min(BOUND, value));
+            return value > BOUND ? BOUND : value < -BOUND ? -BOUND : (int) value;
         }
     }
 
@@ -1647,57 +1647,36 @@ public final class LosersBooks {
             return NONE;
         }
 
-        /** The kingdom whose telling of the field would leave the fewest, at worst. */
+        /** The kingdom whose telling of the field would leave the least part of all that fits, at worst. */
         int bestWitness(int field) {
             if (!sound || field < 0 || field >= FIELDS_MOST) {
                 return NONE;
             }
-            int ways = ways();
+            int truths = truthsOf(field);
             int best = NONE;
-            int fewest = 0;
+            int bestLeft = 0;
+            int bestOf = 1;
             for (int k = 0; k < kingdoms; k++) {
-                int left = leftAtWorst(k, field, ways);
-                if (best == NONE || left < fewest) {
+                // If it is bound to this truth it can tell one number alone; else any of its biases goes with any truth.
+                boolean bound = isBound(k, field);
+                int left = bound ? 1 : mostAlike(fits[k], truths);
+                int of = bound ? 1 : Integer.bitCount(fits[k]) * Integer.bitCount(truths);
+                if (best == NONE || left * bestOf < bestLeft * of) {
                     best = k;
-                    fewest = left;
+                    bestLeft = left;
+                    bestOf = of;
                 }
             }
             return best;
         }
 
-        /** How many biases of all fit: kingdoms bound to one another by what was told have one choice together. */
-        private int ways() {
-            int ways = 1;
-            for (int k = 0; k < kingdoms; k++) {
-                followAny(k);
-                boolean bound = false;
-                for (int lower = 0; lower < k; lower++) {
-                    bound = bound || bias[lower] != NONE;
-                }
-                ways *= bound ? 1 : Integer.bitCount(fits[k]);
-            }
-            return ways;
-        }
-
-        private void followAny(int kingdom) {
-            int bits = biasesOf(kingdom);
+        /** Whether the bias of a kingdom leaves one truth of the field alone, by all that was told. */
+        private boolean isBound(int kingdom, int field) {
             int guess = 0;
-            while (guess < BIAS_MOST && (bits >> guess & 1) == 0) {
+            while (guess < BIAS_MOST && (biasesOf(kingdom) >> guess & 1) == 0) {
                 guess++;
             }
-            follow(kingdom, guess);
-        }
-
-        private int leftAtWorst(int kingdom, int field, int ways) {
-            followAny(kingdom);
-            if (field < 0 || field >= FIELDS_MOST || truth[field] != NONE) {
-                // Its bias and this truth are bound: it can tell one number alone.
-                return ways;
-            }
-            int mayBe = biasesOf(kingdom);
-            int truths = truthsOf(field);
-            int choices = Integer.bitCount(mayBe) * (firstOf(field) == NONE ? 1 : Integer.bitCount(truths));
-            return choices == 0 ? 0 : ways / choices * mostAlike(mayBe, truths);
+            return follow(kingdom, guess) && field >= 0 && field < FIELDS_MOST && truth[field] != NONE;
         }
 
         /** In how many ways a bias and a truth make the number that most of them make. */

@@ -127,6 +127,20 @@ public final class PromisesTest {
         due("feed of more than there is room for", x.feed(0x20202020, 0x20202020, 0x20202000, 0, 0), -1);
         due("nothing of it came", x.count(4), 230);
         due("feed up to 240", x.feed(0x20202020, 0x20202020, 0x20200000, 0, 0), 240);
+        for (int i = 0; i < 20; i++) {
+            int[] five = new int[5];
+            five[i / 4] = (i % 2 == 0 ? 1 : 128) << 24 - i % 4 * 8;
+            x.end(240);
+            due("one byte beyond", x.feed(five[0], five[1], five[2], five[3], five[4]), -1);
+            x.end(239);
+            due("one byte up to it", x.feed(five[0], five[1], five[2], five[3], five[4]), 240);
+            five[(i / 4 + 2) % 5] = 0x00100000;
+            x.end(239);
+            due("two bytes beyond", x.feed(five[0], five[1], five[2], five[3], five[4]), -1);
+            due("none of them came", x.count(4), 239);
+            x.end(238);
+            due("two bytes up to it", x.feed(five[0], five[1], five[2], five[3], five[4]), 240);
+        }
     }
 
     private static void promise3() {
@@ -893,6 +907,18 @@ public final class PromisesTest {
         worthIs("y:m+1=g+s?7", 7);
         worthIs("y:(((m=9&(s=6|(s=1)))))?[[[[[[5]]]]]]", 5);
         worthIs("y:m=0|m=1&m=2|m=9?3;y:4", 3);
+        worthIs("y:1+1*[1+1*[1+1*[1+1*[1+1*[1+1*[1+1*2]]]]]]", 9);
+        worthIs("y:m=0|m=9&(m=0|m=9&(m=0|m=9&(m=0|m=9&(m=0|m=9&(m=0|m=9&m=1+1*9-1)))))?5", 5);
+        StringBuilder ones = new StringBuilder("y:[1");
+        for (int i = 1; i < 117; i++) {
+            ones.append("+1");
+        }
+        worthIs(ones + "]/4 ", 29);
+        StringBuilder clauses = new StringBuilder();
+        for (int i = 0; i < 29; i++) {
+            clauses.append("y:m<9?1;");
+        }
+        worthIs(clauses + "y:m=9?17", 17);
         secondHasNoGround();
     }
 
@@ -1138,6 +1164,15 @@ public final class PromisesTest {
         due("rests(1, 2)", x.rests(1, 2), -1);
         due("rests(2, -1)", x.rests(2, -1), -1);
         due("rests(-1, -1)", x.rests(-1, -1), -1);
+        // Alike is a rest, too: the first has 4 if it wins, and 3 and 2 less 1 if it is beaten.
+        x = Check.realm("km9s3;km7s3;f");
+        due("rests when alike", x.rests(0, -1), 2);
+        due("the first", x.rests(0, 0), 0);
+        due("the second", x.rests(0, 1), 10);
+        x = Check.realm("km7s3;km9s3;f");
+        due("rests when alike", x.rests(0, -1), 2);
+        due("the first", x.rests(0, 0), 0);
+        due("the second", x.rests(0, 1), 1);
         // Nobody ever has more by holding back.
         x = Check.realm("km0s9;km0s9;f");
         due("rests(0, -1)", x.rests(0, -1), 1);
