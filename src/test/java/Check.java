@@ -4,8 +4,14 @@ import java.nio.charset.StandardCharsets;
 final class Check {
     private static int wrong = 0;
     private static int asked = 0;
+    private static String sentence = "";
 
     private Check() {
+    }
+
+    /** The sentence of the document whose answers come next: it is told with each that is wrong. */
+    static void of(String words) {
+        sentence = words.isEmpty() ? "" : "[" + words + "] ";
     }
 
     static void due(String call, long got, long want) {
@@ -13,7 +19,7 @@ final class Check {
         if (got != want) {
             wrong++;
             if (wrong <= 40) {
-                System.out.println(call + " answered " + got + ", due is " + want);
+                System.out.println(sentence + call + " answered " + got + ", due is " + want);
             }
         }
     }
@@ -27,7 +33,7 @@ final class Check {
         boolean same = got != null && got.getClass() == want;
         if (!same) {
             wrong++;
-            System.out.println(call + " threw " + got + ", due is " + want);
+            System.out.println(sentence + call + " threw " + got + ", due is " + want);
         }
     }
 
@@ -67,6 +73,16 @@ final class Check {
         books.end(0);
         feed(books, text);
         return books.text(sort);
+    }
+
+    /** The fault of a text, whether it is taken, and that the tape is empty then alone. */
+    static void faultIs(int sort, String text, int want) {
+        LosersBooks x = new LosersBooks();
+        due("fault(" + sort + ") of '" + text + "'", fault(x, sort, text), want);
+        due("bytes of '" + text + "' behind fault", x.count(4), text.length());
+        due("text(" + sort + ") of '" + text + "'", x.text(sort) != -1, want == -1);
+        due("bytes of '" + text + "' behind text", x.count(4), want == -1 ? 0 : text.length());
+        due("kingdoms, laws and campaigns behind '" + text + "'", x.count(0) > 0 || x.count(2) + x.count(3) > 0, want == -1);
     }
 
     static LosersBooks realm(String text) {

@@ -160,11 +160,7 @@ public final class PromisesTest {
     }
 
     private static void faultIs(int sort, String text, int want) {
-        LosersBooks x = new LosersBooks();
-        due("fault(" + sort + ") of '" + text + "'", Check.fault(x, sort, text), want);
-        due("bytes of '" + text + "' behind fault", x.count(4), text.length());
-        due("text(" + sort + ") of '" + text + "'", x.text(sort) != -1, want == -1);
-        due("bytes of '" + text + "' behind text", x.count(4), want == -1 ? 0 : text.length());
+        Check.faultIs(sort, text, want);
     }
 
     private static void promise4Realm() {
