@@ -417,11 +417,22 @@ public final class ActBoundsTest {
             due("the oldest is the next one", x.log(59, 0), i % 7);
             due("log(60, 0)", x.log(60, 0), HIDDEN);
         }
+        linesAre(x, 68);
         for (int i : new int[] {-1, 60, 61, Integer.MIN_VALUE, Integer.MAX_VALUE}) {
             due("log(" + i + ", 1)", x.log(i, 1), HIDDEN);
         }
         for (int what : new int[] {-1, 3, Integer.MIN_VALUE, Integer.MAX_VALUE}) {
             due("log(0, " + what + ")", x.log(0, what), HIDDEN);
+        }
+    }
+
+    /** All lines there are behind that many years of the seven fields, of which 1 lost each. */
+    private static void linesAre(LosersBooks x, int years) {
+        for (int i = 0; i < x.count(11); i++) {
+            int field = (years - 1 - i) % 7;
+            due("log(" + i + ", 0)", x.log(i, 0), field);
+            due("log(" + i + ", 1)", x.log(i, 1), 1);
+            due("log(" + i + ", 2)", x.log(i, 2), field == 0 ? 8 : field + 1);
         }
     }
 

@@ -33,6 +33,7 @@ public final class QuestionBoundsTest {
         biasesAndTruthsOfOne();
         biasesAndTruthsOfMore();
         readForAField();
+        oneFromAnother();
         sameByTwo();
         silentFields();
         gameOfTwo();
@@ -594,6 +595,67 @@ public final class QuestionBoundsTest {
         x.told(0, 1, 3);
         // Of field 1 truths 0 .. 3: by 1 each of 4 numbers once; 0 tells 3 in all four.
         due("0 is bound", x.read(1), 1);
+        Check.of("READ: where all is known nobody tells anything new: the lowest");
+        for (int n : new int[] {0, 29}) {
+            x = Check.realm("k;k;f;f;f");
+            x.told(0, 0, n);
+            x.told(1, 1, n);
+            due("one bias each", x.biases(0, -1) + x.biases(1, -1), 2);
+            due("read(0) of " + n, x.read(0), 0);
+            due("read(1) of " + n, x.read(1), 0);
+            due("read(2) of " + n, x.read(2), 0);
+        }
+        x = Check.realm("k;k;f;f;f");
+        x.told(0, 0, 29);
+        x.told(0, 1, 9);
+        x.told(1, 2, 29);
+        due("bias 9 of both, none fell", x.biases(1, 0) * 100 + x.truths(1, -1) * 10 + x.truths(1, 0), 910);
+        due("read(1)", x.read(1), 0);
+        Check.of("READ: is told by the fewest: a KINGDOM of more BIASES tells less");
+        // Of truths 0 .. 2: 0 of biases 0 .. 9 tells each number 2 .. 9 three times of 30, 1 of bias 0 each once of 3.
+        x = Check.realm("k;k;k;f;f;f");
+        x.told(1, 1, 0);
+        x.told(2, 0, 2);
+        due("three truths", x.truths(0, -1), 3);
+        due("0 leaves 3 of 30", x.read(0), 0);
+        x.told(0, 2, 1);
+        // 0 of biases 0, 1 leaves 2 of 6, as 1 leaves 1 of 3.
+        due("alike: the lowest", x.read(0), 0);
+        x.told(0, 2, 1);
+        x.told(0, 1, 0);
+        due("0 of bias 0 alone, too", x.read(0), 0);
+    }
+
+    /** One follows from another through all that was told, in whatever order it was. */
+    private static void oneFromAnother() {
+        Check.of("BIASES of all and a truth of each FIELD by which all TOLD is the truth and its BIAS, in any order");
+        int[][] chain = {{0, 0, 29}, {1, 0, 24}, {1, 1, 10}, {2, 1, 14}, {2, 2, 8}, {3, 2, 3}, {3, 3, 20}, {2, 4, 28}};
+        int[] bias = {9, 4, 8, 3};
+        int[] truth = {20, 6, 0, 17, 20};
+        int[] orders = {1, 3, 5, 7};
+        for (int step : orders) {
+            for (int from = 0; from < chain.length; from++) {
+                LosersBooks x = Check.realm("k;k;k;k;f;f;f;f;f;f");
+                for (int i = 0; i < chain.length; i++) {
+                    int[] one = chain[(from + i * step) % chain.length];
+                    x.told(one[0], one[1], one[2]);
+                }
+                String order = " told from " + from + " by " + step;
+                for (int k = 0; k < 4; k++) {
+                    due("biases(" + k + ", -1)" + order, x.biases(k, -1), 1);
+                    due("biases(" + k + ", 0)" + order, x.biases(k, 0), bias[k]);
+                }
+                for (int f = 0; f < 5; f++) {
+                    due("truths(" + f + ", -1)" + order, x.truths(f, -1), 1);
+                    due("truths(" + f + ", 0)" + order, x.truths(f, 0), truth[f]);
+                }
+                due("nothing of another" + order, x.truths(5, -1), 21);
+                due("told(3, 3, 20) again" + order, x.told(3, 3, 20), 9);
+                due("it fits" + order, x.biases(0, -1), 1);
+                due("told(3, 0, 22)" + order, x.told(3, 0, 22), 10);
+                due("it does not" + order, x.biases(0, -1), 0);
+            }
+        }
     }
 
     // ---- pages ----
@@ -610,6 +672,10 @@ public final class QuestionBoundsTest {
         due("one of each", x.all(11), 1);
         x.burn(0);
         due("one is burnt", x.all(11), 0);
+        x.undo();
+        due("it is there again", x.all(11), 1);
+        x.burn(1);
+        due("the other is burnt", x.all(11), 0);
         x.undo();
         due("it is there again", x.all(11), 1);
         x = Check.ruled("sw0;kb3;kb4;fg9", turns);
@@ -851,6 +917,17 @@ public final class QuestionBoundsTest {
         due("always, when all is burnt", x.all(6), 0);
         due("dumb still", x.all(7), 4);
         due("dumb at 999", late(999).all(7), 999);
+        for (int winner = 0; winner < 4; winner++) {
+            int beaten = winner == 0 ? 3 : winner - 1;
+            x = Check.realm("k;k;k;k;fa" + winner + "b" + beaten + "g1");
+            x.year();
+            due("never, " + winner + " won", x.all(5), 1 << winner);
+            due("always, " + beaten + " was beaten", x.all(6), 1 << beaten);
+            due("dumb", x.all(7), 1);
+            x.burn(0);
+            due("never, when it is burnt", x.all(5), 1 << winner);
+            due("always, when it is burnt", x.all(6), 0);
+        }
     }
 
     private static void lieAndBloodiest() {

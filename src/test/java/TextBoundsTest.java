@@ -38,6 +38,7 @@ public final class TextBoundsTest {
         blanksBetweenSigns();
         theFirstFaultCounts();
         whatIsGoneWithARealm();
+        nothingOfAnotherText();
         Check.end();
     }
 
@@ -138,6 +139,24 @@ public final class TextBoundsTest {
         due("five bytes", x.count(4), 5);
         due("end(6) behind it", x.end(6), false);
         due("the first five", x.text(0), 2);
+        Check.of("end: what stood behind the first n bytes is none of the TAPE");
+        String[] texts = {"k;k;f;  k;k;f", "y:m=1?2 ;y:3", "h1;  a2;t3;y"};
+        for (int sort = 0; sort < 3; sort++) {
+            for (int n = 0; n <= texts[sort].length(); n++) {
+                LosersBooks cut = new LosersBooks();
+                Check.feed(cut, texts[sort]);
+                cut.end(n);
+                int want = Check.fault(new LosersBooks(), sort, texts[sort].substring(0, n));
+                due("fault(" + sort + ") of the first " + n + " of '" + texts[sort] + "'", cut.fault(sort), want);
+                due("its end is the length", want == -1 || want == n, true);
+            }
+        }
+        x = new LosersBooks();
+        Check.feed(x, "k;k;fn12");
+        x.end(7);
+        due("bytes come behind what is left", Check.feed(x, "9"), 8);
+        due("k;k;fn19", x.text(0), 2);
+        due("how many fell", x.field(0, 3), 19);
     }
 
     private static void noSuchSort() {
@@ -631,6 +650,25 @@ public final class TextBoundsTest {
         forceBy("y:7>m?1;y:2", 2);
         forceBy("y:8>m?1;y:2", 2);
         forceBy("y:9>m?1;y:2", 1);
+        Check.of("one of = < >, each behind !, within (, beside & and |");
+        String[] holding = {"m=8", "m<9", "m>7"};
+        String[] failing = {"m=7", "m<8", "m>8"};
+        for (int i = 0; i < 3; i++) {
+            forceBy("y:!" + holding[i] + "?1;y:2", 2);
+            forceBy("y:!" + failing[i] + "?1;y:2", 1);
+            forceBy("y:!!" + holding[i] + "?1;y:2", 1);
+            forceBy("y:!(" + holding[i] + ")?1;y:2", 2);
+            for (int j = 0; j < 3; j++) {
+                forceBy("y:" + holding[i] + "&" + holding[j] + "?1;y:2", 1);
+                forceBy("y:" + holding[i] + "&" + failing[j] + "?1;y:2", 2);
+                forceBy("y:" + failing[i] + "&" + holding[j] + "?1;y:2", 2);
+                forceBy("y:" + failing[i] + "|" + holding[j] + "?1;y:2", 1);
+                forceBy("y:" + holding[i] + "|" + failing[j] + "?1;y:2", 1);
+                forceBy("y:" + failing[i] + "|" + failing[j] + "?1;y:2", 2);
+                forceBy("y:!" + holding[i] + "|!" + failing[j] + "?1;y:2", 1);
+                forceBy("y:!" + failing[i] + "&!" + holding[j] + "?1;y:2", 2);
+            }
+        }
         Check.of("CONDITION: TRUTHS with | between; TRUTH: UNITS with & between; UNIT: ! UNIT, ( CONDITION )");
         for (int bits = 0; bits < 8; bits++) {
             String a = (bits & 1) == 1 ? "m=8" : "m=7";
@@ -712,6 +750,9 @@ public final class TextBoundsTest {
             faultIs(2, letter + " ", 2);
             faultIs(2, letter + ";y", 1);
             faultIs(2, letter + "10", 2);
+            faultIs(2, letter + "00", 2);
+            faultIs(2, letter + "09", 2);
+            faultIs(2, "y;" + letter + "01;y", 4);
             faultIs(2, letter + "1 0", 3);
             faultIs(2, letter + "y", 1);
         }
@@ -822,5 +863,61 @@ public final class TextBoundsTest {
             due("nobody holds back", x.kingdom(k, 5) + x.kingdom(k, 3) + x.kingdom(k, 4), 0);
         }
         due("the law holds", x.force(1, 0), 8);
+    }
+
+    /** What is read of a text, whether it was taken or not, is no part of the texts behind it. */
+    private static void nothingOfAnotherText() {
+        Check.of("ITEMS without: as told, whatever another TEXT told (one that was taken, one asked for its FAULT alone)");
+        String[] others = {"sw9c99;km30b9s9;km30b9s9;km30b9s9;km30b9s9;fa3b2g9n20;fa3b2g9n20", "sw9c99;km30b9s9;fa3b2g9n20;x"};
+        for (String other : others) {
+            LosersBooks x = new LosersBooks();
+            for (int time = 0; time < 4; time++) {
+                Check.fault(x, 0, other);
+                if (time % 2 == 1) {
+                    Check.text(x, 0, other);
+                }
+                due("kingdoms", Check.text(x, 0, "k;km9;f"), 2);
+                due("coins", x.count(7), 20);
+                due("of 0", x.kingdom(0, 0) * 100 + x.kingdom(0, 1) * 10 + x.kingdom(0, 2), 823);
+                due("fields", x.count(1), 1);
+                due("of field 0", x.field(0, 0) * 1000 + x.field(0, 1) * 100 + x.field(0, 2) * 10 + x.field(0, 3), 107);
+                x.year();
+                due("a rout costs one", x.kingdom(0, 0), 7);
+            }
+        }
+        Check.of("WORTH of a LAW: .. 0 without, whatever another TEXT told");
+        for (String other : new String[] {"y:50;y:m=8?40;y:30;y:20;y:10", "y:m=7?50;y:m=8?40;y:30;y:20;x", "y:1+2+3+4+5*6*7"}) {
+            LosersBooks x = Check.realm("k;k;f");
+            for (int law = 0; law < 4; law++) {
+                Check.fault(x, 1, other);
+                due("law " + law, Check.text(x, 1, law < 2 ? "y:m=7?1" : "y:m=7?1;y:" + law), law);
+                x.law(law);
+                due("force by " + law + " behind " + other, x.force(0, 0), law < 2 ? 0 : law);
+            }
+        }
+        Check.of("STEPS, 1 to 16, whatever another TEXT told");
+        LosersBooks x = new LosersBooks();
+        for (int campaign = 0; campaign < 4; campaign++) {
+            Check.fault(x, 2, campaign % 2 == 0 ? times("t9", 16, ";") : "t9;t9;t9;x");
+            due("campaign " + campaign, Check.text(x, 2, "y;a" + campaign), campaign);
+            due("its first", x.step(campaign, 0, 0) * 10 + x.step(campaign, 0, 1), -1);
+            due("its second", x.step(campaign, 1, 0) * 10 + x.step(campaign, 1, 1), 20 + campaign);
+            due("no third", x.step(campaign, 2, 0), -1000000);
+        }
+        Check.of("text: all that was of another REALM, TOLD, too, is gone: what fitted nothing fits again");
+        x = Check.realm("k;k;k;f;f;f");
+        x.told(0, 0, 5);
+        x.told(0, 0, 6);
+        due("nothing fits", x.biases(1, -1), 0);
+        due("another realm", Check.text(x, 0, "k;k;f"), 2);
+        for (int k = 0; k < 2; k++) {
+            due("biases(" + k + ", -1)", x.biases(k, -1), 10);
+        }
+        due("biases(2, -1)", x.biases(2, -1), -1);
+        due("truths(0, -1)", x.truths(0, -1), 21);
+        due("read(0)", x.read(0), 0);
+        due("told(1, 0, 29)", x.told(1, 0, 29), 1);
+        due("its bias", x.biases(1, 0), 9);
+        due("told(2, 0, 5)", x.told(2, 0, 5), -1);
     }
 }
