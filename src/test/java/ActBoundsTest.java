@@ -35,6 +35,8 @@ public final class ActBoundsTest {
         giving();
         fortyActs();
         eachActIsUndone();
+        undoneOfTheLast();
+        undoneWhenFull();
         lawsThatHold();
         intrigues();
         lastCall();
@@ -601,6 +603,55 @@ public final class ActBoundsTest {
         due("the law holds still", x.count(5), 0);
         due("intrigue stays", x.count(9), 3);
         due("told stays", x.count(10), 1);
+    }
+
+    private static void undoneOfTheLast() {
+        Check.of("undo: The latest ACT is UNDONE, whose soever: the first KINGDOM's, the last one's");
+        for (int k = 0; k < 4; k++) {
+            LosersBooks x = Check.realm("sc99;km8b5s5;km8b5s5;km8b5s5;km8b5s5;fa" + k + "b" + (k + 1) % 4);
+            x.hold(k);
+            x.arm(k);
+            x.teach(k);
+            x.swear(k);
+            x.year();
+            due("held back, armed, taught, sworn", x.kingdom(k, 5) * 100 + x.kingdom(k, 1) * 10 + x.kingdom(k, 2), 147);
+            due("beaten", x.log(0, 1), k);
+            due("might", x.kingdom(k, 0), 8);
+            x.undo();
+            due("might, ahead of the year", x.kingdom(k, 0), 9);
+            due("style, ahead of the year", x.kingdom(k, 2), 6);
+            due("pages, ahead of the year", x.kingdom(k, 4), 0);
+            due("wins of the other", x.kingdom((k + 1) % 4, 3), 0);
+            x.undo();
+            due("bias, ahead of the oath", x.kingdom(k, 1), 5);
+            x.undo();
+            due("style, ahead of the school", x.kingdom(k, 2), 5);
+            x.undo();
+            due("might, ahead of arming", x.kingdom(k, 0), 8);
+            x.undo();
+            due("not held back", x.kingdom(k, 5), 0);
+            due("coins", x.count(7), 99);
+        }
+    }
+
+    private static void undoneWhenFull() {
+        Check.of("undo: the oldest PAGE that was lost, the oldest line of the LOG, are there again");
+        LosersBooks x = Check.ruled("sw0;km30b4;km5b1;f;fn1;fn2;fn3;fn4;fn5;fn6", MIGHT);
+        passYears(x, 61);
+        x.burn(29);
+        x.burn(0);
+        due("pages", x.count(8), 28);
+        x.undo();
+        due("the oldest page", x.page(0, 0), 31 % 7);
+        x.undo();
+        due("the latest page", x.page(29, 0), 60 % 7);
+        x.undo();
+        due("pages", x.count(8), 30);
+        for (int i = 0; i < 30; i++) {
+            due("page(" + i + ", 0)", x.page(i, 0), (30 + i) % 7);
+        }
+        due("the log", x.count(11), 60);
+        linesAre(x, 60);
     }
 
     /** Does acts of that kind; how many. */

@@ -317,6 +317,26 @@ public final class DrawBoundsTest {
             due("back() again", x.back(), years);
             due("they are so again", seen(x).equals(was), true);
         }
+        Check.of("An IMAGE keeps all four KINGDOMS, all 30 PAGES, all 60 lines of the LOG");
+        LosersBooks full = Check.ruled("sw0c99;km8b5s5;km8b5s5;km8b5s5;km8b5s5;fg9;fa1b2g9;fa2b3g9;fa3b0g9", "y:g");
+        full.years(30, 4);
+        full.years(30, 5);
+        for (int k = 0; k < 4; k++) {
+            full.hold(k);
+        }
+        due("pages and lines", full.count(8) * 100 + full.count(11), 3060);
+        String was = seen(full);
+        due("image()", full.image(), 60);
+        full.years(3, 1);
+        for (int k = 0; k < 4; k++) {
+            full.hold(k);
+            full.arm(k);
+            full.teach(k);
+            full.swear(k);
+        }
+        full.burn(29);
+        due("back()", full.back(), 60);
+        due("they are so again", seen(full).equals(was), true);
         Check.of("An IMAGE keeps no LAW that holds, INTRIGUE, TOLD, TAPE");
         LosersBooks x = Check.ruled("k;k;f", "y:5");
         x.told(0, 0, 5);

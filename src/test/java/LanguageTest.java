@@ -58,6 +58,13 @@ public final class LanguageTest {
             Check.due("private " + m.getName() + " bears a public name",
                 Modifier.isPrivate(m.getModifiers()) && names.contains(m.getName()), false);
         }
+        for (Class<?> inner : LosersBooks.class.getDeclaredClasses()) {
+            for (Method m : inner.getDeclaredMethods()) {
+                Check.due(inner + "." + m.getName() + " bears a public name", names.contains(m.getName()), false);
+            }
+            Check.due(inner + " has more than twenty fields", ownFields(inner) > 20, false);
+        }
+        Check.due("more than twenty fields", ownFields(LosersBooks.class) > 20, false);
         for (Field f : LosersBooks.class.getDeclaredFields()) {
             boolean constant = f.getName().equals("NONE") || f.getName().equals("HIDDEN");
             Check.due("field " + f.getName() + " is private", Modifier.isPrivate(f.getModifiers()), !constant);
@@ -71,6 +78,14 @@ public final class LanguageTest {
             Check.due(inner + " is private and static", inner.getModifiers() & (Modifier.PUBLIC | Modifier.STATIC),
                 Modifier.STATIC);
         }
+    }
+
+    private static int ownFields(Class<?> type) {
+        int fields = 0;
+        for (Field f : type.getDeclaredFields()) {
+            fields += Modifier.isStatic(f.getModifiers()) ? 0 : 1;
+        }
+        return fields;
     }
 
     private static void same(String what, Set<String> got, Set<String> want) {

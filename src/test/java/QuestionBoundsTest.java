@@ -34,6 +34,7 @@ public final class QuestionBoundsTest {
         biasesAndTruthsOfMore();
         readForAField();
         oneFromAnother();
+        toldOfEach();
         sameByTwo();
         silentFields();
         gameOfTwo();
@@ -626,6 +627,54 @@ public final class QuestionBoundsTest {
         due("0 of bias 0 alone, too", x.read(0), 0);
     }
 
+    private static void toldOfEach() {
+        Check.of("a KINGDOM told of a FIELD: each of four of each of eight");
+        for (int k = 0; k < 4; k++) {
+            for (int f = 0; f < 8; f++) {
+                LosersBooks x = Check.realm("k;k;k;k;f;f;f;f;f;f;f;f");
+                due("told(" + k + ", " + f + ", 26)", x.told(k, f, 26), 1);
+                for (int other = 0; other < 4; other++) {
+                    due("biases(" + other + ", -1)", x.biases(other, -1), other == k ? 4 : 10);
+                }
+                for (int other = 0; other < 8; other++) {
+                    due("truths(" + other + ", -1)", x.truths(other, -1), other == f ? 4 : 21);
+                }
+                due("the first bias, the first truth", x.biases(k, 0) * 100 + x.truths(f, 0), 617);
+                // Bias 6 .. 9 of k: 4 of 84 pairs for another field; the others tell as many as 10 of 210 alike.
+                due("read(" + f + "): k is bound", x.read(f), k == 0 ? 1 : 0);
+                due("read of another: alike", x.read((f + 1) % 8), 0);
+            }
+        }
+        Check.of("READ: who told of the FIELD tells nothing new of it, one of known BIAS tells all truths apart");
+        for (int f = 0; f < 8; f++) {
+            LosersBooks one = Check.realm("k;k;f;f;f;f;f;f;f;f");
+            one.told(0, f, 26);
+            one.told(1, (f + 1) % 8, 29);
+            due("read(" + f + ")", one.read(f), 1);
+        }
+        Check.of("TOLD (10 at most): the tenth counts");
+        LosersBooks x = Check.realm("k;k;f;f");
+        for (int i = 0; i < 9; i++) {
+            x.told(0, 0, 9);
+        }
+        due("truths(1, -1) of nine", x.truths(1, -1), 21);
+        due("the tenth", x.told(1, 1, 29), 10);
+        due("truths(1, -1) of ten", x.truths(1, -1), 1);
+        due("truths(1, 0)", x.truths(1, 0), 20);
+        due("biases(1, 0)", x.biases(1, 0), 9);
+        Check.of("READ: three of whom nobody tells anything new: the lowest");
+        x = Check.realm("k;k;k;f;f;f");
+        x.told(0, 0, 29);
+        x.told(0, 1, 9);
+        x.told(2, 2, 29);
+        x.told(1, 2, 21);
+        due("biases", x.biases(0, 0) * 100 + x.biases(1, 0) * 10 + x.biases(2, 0), 919);
+        due("none fell", x.truths(1, -1) * 10 + x.truths(1, 0), 10);
+        for (int f = 0; f < 3; f++) {
+            due("read(" + f + ")", x.read(f), 0);
+        }
+    }
+
     /** One follows from another through all that was told, in whatever order it was. */
     private static void oneFromAnother() {
         Check.of("BIASES of all and a truth of each FIELD by which all TOLD is the truth and its BIAS, in any order");
@@ -692,6 +741,11 @@ public final class QuestionBoundsTest {
         due("all eight", x.all(11), 255);
         passYears(x, 30);
         due("the old ones are lost", x.all(11), 0);
+        x = Check.ruled("sw0;kb3;kb3;fg9", "y:d<29?g;y:10-g");
+        passYears(x, 29);
+        due("29 pages of 1", x.all(11), 0);
+        x.year();
+        due("the thirtieth of 0", x.all(11), 1);
         x = Check.ruled("sw0c99;kb3;kb4;fg9", turns);
         x.swear(1);
         passYears(x, 2);
@@ -725,6 +779,11 @@ public final class QuestionBoundsTest {
         x.year();
         x.year();
         due("32: the page of field 1 was lost", x.all(12), 2);
+        x = Check.ruled("sw0;km30;k;fg9;fg9", "y:d-d/2*2=1&d<59?1;y:g");
+        passYears(x, 59);
+        due("30 pages of field 0", x.count(8) * 10 + x.all(12), 302);
+        x.year();
+        due("the latest of 30 is of field 1", x.count(8) * 10 + x.all(12), 300);
     }
 
     private static int silentBehindADraw() {
@@ -939,6 +998,11 @@ public final class QuestionBoundsTest {
         }
         x.burn(29);
         due("a page less", x.all(9), 9 * 29);
+        x = Check.ruled("sw0;km30;kb1;fn1;fn2;fn3;fn4;fn5;fn6;fn7;fn8", MIGHT);
+        for (int year = 0; year <= 8; year++) {
+            due("the lie of fields below " + year, x.all(9), year);
+            x.year();
+        }
         due("no bias, no lie", lieOfNoBias(), 0);
         Check.of("BLOODIEST: the FIELD where most FELL in truth");
         for (int most = 0; most < 8; most++) {
