@@ -44,7 +44,6 @@ public final class LosersBooks {
     private static final int SWEAR_PRICE = 4;
 
     private final Tape tape = new Tape();
-    private final LawReader lawReader = new LawReader(tape);
     private final Law[] laws = new Law[TEXTS_MOST];
     private final Campaign[] campaigns = new Campaign[TEXTS_MOST];
     private final World now = new World();
@@ -105,7 +104,7 @@ public final class LosersBooks {
             case REALM:
                 return realmDraft.readFrom(tape);
             case LAW:
-                return lawReader.readInto(lawDraft);
+                return new LawReader(tape, lawDraft).readLaw();
             case CAMPAIGN:
                 return campaignDraft.readFrom(tape);
             default:
@@ -118,7 +117,7 @@ public final class LosersBooks {
             case REALM:
                 return realmDraft.readFrom(tape) == NONE ? foundRealm() : NONE;
             case LAW:
-                return lawReader.readInto(lawDraft) == NONE ? keepLaw() : NONE;
+                return new LawReader(tape, lawDraft).readLaw() == NONE ? keepLaw() : NONE;
             case CAMPAIGN:
                 return campaignDraft.readFrom(tape) == NONE ? keepCampaign() : NONE;
             default:
@@ -1079,15 +1078,15 @@ public final class LosersBooks {
         private static final int NUMBER_MOST = 9999;
 
         private final Tape tape;
-        private Law law = new Law();
+        private final Law law;
 
-        LawReader(Tape tape) {
+        LawReader(Tape tape, Law law) {
             this.tape = tape;
+            this.law = law;
         }
 
         /** The fault, or NONE. */
-        int readInto(Law draft) {
-            law = draft;
+        int readLaw() {
             law.size = 0;
             tape.rewind();
             clause();

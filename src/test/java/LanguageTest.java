@@ -35,6 +35,7 @@ public final class LanguageTest {
         String code = text.replaceAll("(?s)/\\*.*?\\*/", "").replaceAll("//[^\n]*", "");
         forbidden(code.replaceAll("\"[^\"\n]*\"", "\"\"").replaceAll("'[^'\n]'", "' '"));
         methods(code);
+        handedOut(code);
         signs(text);
         Check.end();
     }
@@ -142,6 +143,14 @@ public final class LanguageTest {
         for (Map.Entry<String, Integer> one : lines.entrySet()) {
             Check.due(one.getKey() + " has " + one.getValue() + " lines", one.getValue() > 60, false);
         }
+    }
+
+    /** Rule 12: a constructor, and what stands behind a field's =, gives no part of the new object to another one. */
+    private static void handedOut(String code) {
+        Matcher field = Pattern.compile("(?m)^ +(?:private |static |final )+[\\w\\[\\]]+ \\w+ = new \\w+\\([^)].*$").matcher(code);
+        boolean there = field.find();
+        Check.due("a field is made of another" + (there ? ": " + field.group().trim() : ""), there, false);
+        Check.due("the object itself is handed out", Pattern.compile("\\bthis\\b(?!\\.)").matcher(code).find(), false);
     }
 
     private static void signs(String text) {
