@@ -564,6 +564,28 @@ public final class TextBoundsTest {
         goesOn(1, "y:m;", "y");
     }
 
+    /** Six may stand wherever a sum or a condition may begin, and what was closed ahead of it does not count. */
+    private static void seventhAnywhere() {
+        String[] sums = {"y:", "y:m+", "y:m*", "y:m=", "y:m<", "y:m>", "y:m=1&", "y:m=1&m=", "y:m=1|", "y:m=1|m=", "y:m=1?",
+            "y:m=1&m=1?", "y:!m=1?", "y:(m=1)?", "y:!m=1&m=", "y:(m=1)|m=", "y:[[[[[[m]]]]]]=", "y:((((((m=1))))))?",
+            "y:!!!!!!m=1?", "y:1;y:", "y:m=1?1;y:", "y:m=1?1;y:m=", "y:m=1?1;y:m=1?"};
+        for (String ahead : sums) {
+            goesOn(1, ahead + "[[[[[[", DIGITS + LETTERS);
+            faultIs(1, ahead + "[[[[[[[m]]]]]]]", ahead.length() + 6);
+        }
+        String[] conditions = {"y:", "y:m=1&", "y:m=1|", "y:m=1&m=1&", "y:m=1|m=1|", "y:m=1|m=1&", "y:m=1&m=1|", "y:!m=1&",
+            "y:!m=1|", "y:(m=1)&", "y:(m=1)|", "y:((((((m=1))))))&", "y:!!!!!!m=1|", "y:1;y:", "y:m=1?1;y:m=1|"};
+        for (String ahead : conditions) {
+            for (String open : new String[] {"!!!!!!", "((((((", "(!(!(!", "!(!(!("}) {
+                goesOn(1, ahead + open, DIGITS + LETTERS);
+                for (String seventh : new String[] {"!m=1", "(m=1", "[m]=1", "m=[1]"}) {
+                    int at = seventh.equals("m=[1]") ? 2 : 0;
+                    faultIs(1, ahead + open + seventh, ahead.length() + 6 + at);
+                }
+            }
+        }
+    }
+
     private static void sixWithinOneAnother() {
         Check.of("At most six of ( [ ! within one another; FAULT: a seventh of ( [ ! in a LAW at it");
         String[] six = {"[[[[[[", "((((((", "!!!!!!", "(!(!(!", "!(!([[", "([[[[[", "!!!!![", "(((((!"};
@@ -575,6 +597,7 @@ public final class TextBoundsTest {
             faultIs(1, "y:" + open + "(m", 8);
             faultIs(1, "y:" + open + "!m", 8);
         }
+        seventhAnywhere();
         fits(1, "y:[[[[[[m]]]]]]");
         fits(1, "y:[[[[[[m]]]]]]+[[[[[[m]]]]]]=[[[[[[m]]]]]]&!!!!!!m=1|((((((m=1))))))?[[[[[[m]]]]]]");
         fits(1, "y:!!!!!!m=1;y:!!!!!!m=1".replace("=1", "=1?1"));
@@ -881,6 +904,11 @@ public final class TextBoundsTest {
                 due("of 0", x.kingdom(0, 0) * 100 + x.kingdom(0, 1) * 10 + x.kingdom(0, 2), 823);
                 due("fields", x.count(1), 1);
                 due("of field 0", x.field(0, 0) * 1000 + x.field(0, 1) * 100 + x.field(0, 2) * 10 + x.field(0, 3), 107);
+                int[] greatest = {1, 0, 0, 0, 0};
+                for (int what = 0; what < greatest.length; what++) {
+                    due("all(" + what + ") of those there are", x.all(what), greatest[what]);
+                }
+                due("the bloodiest of those there are", x.all(8), 0);
                 x.year();
                 due("a rout costs one", x.kingdom(0, 0), 7);
             }
